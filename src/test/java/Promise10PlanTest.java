@@ -12,6 +12,7 @@ public final class Promise10PlanTest {
         applicability();
         addWinsOverDelete();
         methodOrderAndCount();
+        allMethodsForOneTask();
         methodWithoutSubtasks();
         subtasksComeBeforeTheRest();
         backtracksIntoAnEarlierTask();
@@ -141,6 +142,17 @@ public final class Promise10PlanTest {
         outcome("the last method", x, FOUND, 6, "3,", "4,");
         forbid(x, 3);
         outcome("no method", x, FAILED, 6, "", "");
+    }
+
+    private static void allMethodsForOneTask() {
+        HtnPlanner x = planner(1, 100, 16);
+        for (int m = 0; m < 32; m++) {
+            method(x, 16, m < 31 ? 0 : 1);
+        }
+        forbid(x, 0);
+        outcome("the last of 32 methods", x, FOUND, 31 * 2 + 2, "1,", "31,");
+        forbid(x, 1);
+        outcome("none of 32 methods", x, FAILED, 32 * 2, "", "");
     }
 
     private static void methodWithoutSubtasks() {

@@ -57,13 +57,13 @@ public final class Promise14ExecuteStepTest {
 
     private static void addWinsOverDelete() {
         HtnPlanner x = new HtnPlanner(1, 9);
-        x.setSet(HtnPlanner.SET_INIT, 0, 3L);
+        x.setSet(HtnPlanner.SET_INIT, 0, 3L | 16L | 32L);
         x.setSet(HtnPlanner.SET_OP_DEL, 15, 7L);
-        x.setSet(HtnPlanner.SET_OP_ADD, 15, 2L | 8L);
+        x.setSet(HtnPlanner.SET_OP_ADD, 15, 2L | 8L | 16L);
         x.addInitialTask(15);
         x.plan();
         check.due("executeStep()", x.executeStep(), 15L);
-        check.due("getExecState()", x.getExecState(), 10L);
+        check.due("getExecState()", x.getExecState(), 2L | 8L | 16L | 32L);
     }
 
     private static void fullPlan() {

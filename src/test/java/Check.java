@@ -23,6 +23,39 @@ final class Check {
         }
     }
 
+    /** Runs the test of one sentence of the document, and tells the sentence if it does not hold. */
+    void sentence(String sentence, Runnable test) {
+        int before = wrong;
+        try {
+            test.run();
+        } catch (RuntimeException | StackOverflowError thrown) {
+            wrong++;
+            System.out.println("a call threw " + thrown);
+        }
+        if (wrong != before) {
+            System.out.println("  so this does not hold: " + sentence);
+        }
+    }
+
+    /** A call that is refused, or that only reads. */
+    void leavesAll(String call, HtnPlanner x, Runnable calls) {
+        String before = all(x);
+        calls.run();
+        same("all after " + call, all(x), before);
+    }
+
+    /** Two searches with the same outcome, which leave the domain as it is. */
+    void planned(String name, HtnPlanner x, int status, int expansions, String plan, String decomposition) {
+        String domain = domain(x);
+        String outcomeDue = outcomeText(status, expansions, plan, decomposition, 0,
+                x.getSet(HtnPlanner.SET_INIT, 0));
+        for (int time = 0; time < 2; time++) {
+            due("plan() of " + name, x.plan(), status);
+            same("the outcome of " + name, outcome(x), outcomeDue);
+        }
+        same("the domain after " + name, domain(x), domain);
+    }
+
     /** After a call that DISCARDs: no outcome, and the executor at the initial state. */
     void discarded(String call, HtnPlanner x) {
         same("the outcome after " + call, outcome(x),

@@ -54,8 +54,8 @@ public final class Edges04AddMethodTest {
             refused(x, 15);
             refused(x, 32);
             refused(x, -1);
-            while (x.addMethod(30) != -1) {
-                continue;
+            for (int i = 0; i < HtnPlanner.MAX_METHODS; i++) {
+                x.addMethod(30);
             }
             x.plan();
             x.executeStep();

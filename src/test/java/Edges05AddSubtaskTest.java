@@ -70,8 +70,8 @@ public final class Edges05AddSubtaskTest {
             refused(x, 3, 0);
             refused(x, 0, -1);
             refused(x, 0, 32);
-            while (x.addSubtask(0, 5)) {
-                continue;
+            for (int i = 0; i < HtnPlanner.MAX_SUBTASKS; i++) {
+                x.addSubtask(0, 5);
             }
             x.plan();
             x.executeStep();
@@ -109,8 +109,8 @@ public final class Edges05AddSubtaskTest {
 
     private static void restStays() {
         HtnPlanner x = Samples.solvable();
-        while (x.addMethod(20) != -1) {
-            continue;
+        for (int i = 0; i < HtnPlanner.MAX_METHODS; i++) {
+            x.addMethod(20);
         }
         for (int m = 3; m < 32; m++) {
             x.setSet(HtnPlanner.SET_M_PRE, m, -m);

@@ -49,8 +49,8 @@ public final class Edges07AddInitialTaskTest {
         for (HtnPlanner x : Samples.inEveryStatus().values()) {
             refused(x, -1);
             refused(x, 32);
-            while (x.addInitialTask(9)) {
-                continue;
+            for (int i = 0; i < HtnPlanner.MAX_INITIAL; i++) {
+                x.addInitialTask(9);
             }
             refused(x, 9);
             x.plan();

@@ -13,6 +13,7 @@ public final class Edges10SearchTest {
         check.sentence("if E == budget, the whole search stops at once with `PLAN_BUDGET`;",
                 Edges10SearchTest::budgetReached);
         check.sentence("1. If T is empty: success with (P, D).", Edges10SearchTest::emptyWithNothingLeft);
+        check.sentence("3. If t is in 0..15: make one ATTEMPT.", Edges10SearchTest::firstAndLastOperators);
         check.sentence("If operator t is applicable in S and length(P) < `MAX_PLAN`, the result is "
                 + "Solve(apply(t, S), R, P + [t], D). Otherwise the result is failure.",
                 Edges10SearchTest::planFull);
@@ -106,6 +107,18 @@ public final class Edges10SearchTest {
         byMethod.addMethod(19);
         check.planned("all used up by a method", byMethod, FOUND, 42,
                 "1,2,3,4,".repeat(7) + "5,5,5,6,", "0,".repeat(7) + "1,2,3,");
+    }
+
+    /** Task 15 is the last one that takes no method, task 16 the first that takes one. */
+    private static void firstAndLastOperators() {
+        for (int task = 0; task <= 16; task++) {
+            HtnPlanner x = Samples.planner(1, 9, task);
+            if (task <= 15) {
+                check.planned("task " + task, x, FOUND, 1, task + ",", "");
+            } else {
+                check.planned("task " + task, x, FAILED, 0, "", "");
+            }
+        }
     }
 
     /** A way of 31 operators and some more, over nine methods. */

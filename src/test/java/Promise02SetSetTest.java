@@ -28,7 +28,7 @@ public final class Promise02SetSetTest {
 
     private static void everyMethodSetIsStoredAlone() {
         HtnPlanner x = Samples.solvable();
-        while (x.getInfo(HtnPlanner.INFO_METHOD_COUNT) < 32) {
+        for (int i = 0; i < HtnPlanner.MAX_METHODS; i++) {
             x.addMethod(30);
         }
         for (int m = 0; m < 32; m++) {
